@@ -475,7 +475,7 @@ public final class FastPlane {
         /** The end comes again and again. */
         void advance() {
             token = Math.min(token + 1, tokens - 1);
-            if (within(token, 0, MOST_BYTES)) {
+            if (token >= 0 && token <= MOST_BYTES) {
                 kind = kinds[token];
                 start = starts[token];
                 word = worths[token];
@@ -1010,7 +1010,7 @@ public final class FastPlane {
                 return push(asked[kind - Tape.LAND], top);
             }
             if (kind == Tape.NOT && within(top, 1, MOST_UNITS)) {
-                stack[top - 1] = bit(stack[top - 1] == 0);
+                stack[top - 1] = stack[top - 1] == 0 ? 1 : 0;
                 return top;
             }
             if (within(top, 2, MOST_UNITS)) {
@@ -1020,7 +1020,7 @@ public final class FastPlane {
         }
 
         private int push(int value, int top) {
-            if (within(top, 0, MOST_UNITS - 1)) {
+            if (top >= 0 && top < MOST_UNITS) {
                 stack[top] = value;
             }
             return top + 1;
@@ -1028,19 +1028,15 @@ public final class FastPlane {
 
         private static int joined(int sign, int a, int b) {
             switch (sign) {
-                case '<': return bit(a < b);
-                case '>': return bit(a > b);
-                case '=': return bit(a == b);
+                case '<': return a < b ? 1 : 0;
+                case '>': return a > b ? 1 : 0;
+                case '=': return a == b ? 1 : 0;
                 case '+': return a + b;
                 case '-': return a - b;
                 case '*': return a * b;
-                case Tape.AND: return bit(a != 0 && b != 0);
-                default: return bit(a != 0 || b != 0);
+                case Tape.AND: return a != 0 && b != 0 ? 1 : 0;
+                default: return a != 0 || b != 0 ? 1 : 0;
             }
-        }
-
-        private static int bit(boolean holds) {
-            return holds ? 1 : 0;
         }
 
         private void readLine(Tape tape) {
@@ -1437,7 +1433,8 @@ public final class FastPlane {
 
         private static boolean canHold(Machine machine, int a, int b, int c) {
             int[] most = machine.tankHolds;
-            return within(a, 0, most[0]) && within(b, 0, most[1]) && within(c, 0, most[2]);
+            boolean enough = a >= 0 && b >= 0 && c >= 0;
+            return enough && a <= most[0] && b <= most[1] && c <= most[2];
         }
 
         private void prepare(Machine machine, int all) {
