@@ -902,11 +902,11 @@ public final class FastPlane {
     private static final class Treaty {
         static final int MOST_BYTES = 700;
         static final int SHARE = 0;
-        static final int LEAVE = 1;
-        static final int FLY = 2;
-        static final int KEEP = 3;
+        static final int LEAVE = Tape.LEAVE - Tape.SHARE;
+        static final int FLY = Tape.FLY - Tape.SHARE;
+        static final int KEEP = Tape.KEEP - Tape.SHARE;
 
-        private static final int LINES = 4;
+        private static final int LINES = KEEP + 1;
         private static final int MOST_UNITS = 60;
         private static final int DEEPEST = 6;
         private static final int WORDS = Tape.PRICE - Tape.LAND + 1;
@@ -1159,12 +1159,12 @@ public final class FastPlane {
             if (!isTongue(a) || !isTongue(b)) {
                 return NONE;
             }
-            if (found[pair] == UNSOUGHT) {
+            if (a != b && found[pair] == UNSOUGHT) {
                 Treaty one = treaties[a];
                 Treaty other = treaties[b];
                 found[pair] = fly ? inFlying(one, other) : inLeaving(one, other);
             }
-            return found[pair];
+            return a != b ? found[pair] : NONE;
         }
 
         private static int inLeaving(Treaty one, Treaty other) {
@@ -1471,7 +1471,7 @@ public final class FastPlane {
                 return 0;
             }
             int best = burnt[state];
-            for (int code = FIRST_CODE; code < FIRST_CODE * (pump + 1); code++) {
+            for (int code = FIRST_CODE; code < FIRST_CODE * Math.min(pump + 1, best); code++) {
                 if (canPump(machine, code)) {
                     best = Math.min(best, code / FIRST_CODE + burntAt(pumpedState(state, code)));
                 }
@@ -1818,7 +1818,7 @@ public final class FastPlane {
         private final int[] tenths = new int[MOST];
         // The least money of LAND 1 that is SAFE, by STAGES done, and by WAITS and VETOES that are
         // left and the money of LAND 0.
-        private final int[][] least = new int[MOST + 1][GAMES];
+        private final int[][] least = new int[MOST][GAMES];
 
         int add(int newCost, int newTenths) {
             if (!within(newCost, 0, 30) || !within(newTenths, 0, 10) || count >= MOST) {
@@ -1862,7 +1862,6 @@ public final class FastPlane {
                 return;
             }
             known = true;
-            Arrays.fill(least[count], 0);
             for (int stage = count - 1; stage >= 0; stage--) {
                 for (int game = 0; game < GAMES; game++) {
                     findGame(stage, game);
@@ -1902,7 +1901,10 @@ public final class FastPlane {
         private int leastAt(int stage, int waits, int vetoes, int first) {
             boolean inside = within(stage, 0, count) && within(waits, 0, MOST_SLACK)
                 && within(vetoes, 0, MOST_VETOES) && within(first, 0, MOST_MONEY);
-            return inside ? least[stage][(waits * (MOST_VETOES + 1) + vetoes) * MONEYS + first] : LOST;
+            if (!inside || stage == count) {
+                return inside ? 0 : LOST;
+            }
+            return least[stage][(waits * (MOST_VETOES + 1) + vetoes) * MONEYS + first];
         }
     }
 }

@@ -43,7 +43,9 @@ final class Drawn {
         }
         int tanks = below(12) == 0 ? 4 : 1 + below(3);
         for (int i = 0; i < tanks; i++) {
-            text.append("tank" + blank() + "at" + blank() + below(100) + blank() + "holds " + (1 + below(15)) + ";");
+            int at = below(5) == 0 ? below(100) : below(3) * 10 + below(3);
+            int holds = below(6) == 0 ? 15 : 1 + below(15);
+            text.append("tank" + blank() + "at" + blank() + at + blank() + "holds " + holds + ";");
         }
         for (int row = 0; row < 8; row++) {
             if (below(2) == 0) {

@@ -94,6 +94,7 @@ public final class FaultsTest {
         machineFault("", "share 5;", 2);
         machineFault("part ", "part by 0", 2);
         machineFault("part ", "price by 0", 2);
+        machineFault("part ", "by 0 long 1 cm grows 0 costs 0;", 2);
         machineFault("part ", "0", 2);
         machineFault("part ", "", 2);
         machineFault(A + "part ", "a by", 3);
@@ -162,7 +163,13 @@ public final class FaultsTest {
         machineFault("row 0 ", "aaaaaaa;", 4);
         machineFault("row 0 ", "a;", 4);
         machineFault("row 0 ", "aaaaaaaaa;", 1);
-        machineFault("row 0 ", "airline;", 4);
+        for (String word : ("part by long cm inch grows costs join gap moves after tank at holds row share leave fly keep"
+            + " when and or not land cost month over ground hour speed airline shown others price").split(" ")) {
+            machineFault("row 0 ", word + ";", 4);
+            machineFault("part ", word + " by 0", 2);
+            machineFault(A + "join a ", word + " gap 0", 2);
+        }
+        machineFault("row 7 aaaaaaaa;row ", "7 aaaaaaaa;", 3);
         machineFault("row 0 ", "5;", 2);
         machineFault("row 0 ", ";", 2);
         machineFault("row 0 aaaaaaaa ", "b;", 2);
@@ -191,6 +198,14 @@ public final class FaultsTest {
     }
 
     private static void firstFault() {
+        machineFault("", ";".repeat(1300), 2);
+        machineFault(" ".repeat(1293) + "tank at", "", 2);
+        machineFault(" ".repeat(1299), "?", 1);
+        machine(" ".repeat(1282) + "tank at 5 holds 5;", 1);
+        machineFault("", "a".repeat(1300), 1);
+        machineFault("", "1".repeat(1300), 1);
+        treatyFault("", ";".repeat(700), 2);
+        treatyFault(" ".repeat(695) + "share", "", 2);
         machineFault("part a by ", "2 long ? cm", 4);
         machineFault(A + "join a ", "b gap 200; ?", 5);
         machineFault("row 0 ", "abc 5", 4);
@@ -251,6 +266,7 @@ public final class FaultsTest {
         treaty("share " + sixty + ";", 1);
         treatyFault("share " + sixty + "+", "1;", 2);
         treatyFault("share " + sixty + "+", "(1);", 2);
+        treatyFault("share " + sixty + "+", ";", 2);
         treatyFault("share " + sixty + "+", "over;", 2);
         treatyFault("share " + sixty + "+", "?", 1);
         treatyFault("share " + sixty + "+", "not", 2);

@@ -265,6 +265,12 @@ public final class PromisesTest {
         FastPlane speed = Check.with("part a by 0 long 100 cm grows 99 costs 0;part b by 0 long 100 cm grows 0 costs 0;"
             + "join b a gap 0;");
         due("10: at speed 0", speed.mend(0), -1);
+        FastPlane one = Check.with("part a by 0 long 50 cm grows 0 costs 0;part b by 0 long 50 inch grows 0 costs 0;"
+            + "part c by 0 long 127 cm grows 0 costs 0;part d by 0 long 102 cm grows 0 costs 0;"
+            + "part e by 0 long 40 inch grows 0 costs 0;join b c gap 0;join d e gap 3;");
+        due("10: one millimetre", one.mend(1), 1019);
+        due("10: one millimetre", one.mend(0), 3);
+        due("10: one more fits", one.mend(2), 2);
         FastPlane most = Check.with("part a by 0 long 1 cm grows 0 costs 0;part b by 0 long 30 cm grows 0 costs 0;"
             + "part c by 0 long 31 cm grows 0 costs 0;part d by 0 long 32 cm grows 0 costs 0;"
             + "join a b gap 5;join a c gap 5;join a d gap 5;join b c gap 5;");
@@ -298,6 +304,19 @@ public final class PromisesTest {
         due("11: whether it holds alone", x.unlike(1, 2, false), -1);
         due("11: whether it holds alone", x.unlike(1, 2, true), -1);
         due("11: holds and does not", x.unlike(1, 0, false), 0);
+        Check.treaty(x, 1, "leave when month > 199; fly when not hour > 23;");
+        Check.treaty(x, 2, "leave when over > 99; fly when not (speed > 30 or ground > 7);");
+        due("11: months end at 199, over at 99", x.unlike(1, 2, false), -1);
+        due("11: grounds end at 7, hours at 23, speeds at 30", x.unlike(1, 2, true), -1);
+        Check.treaty(x, 1, "leave when over = 99;");
+        due("11: over alone", x.unlike(1, 2, false), 99);
+        Check.treaty(x, 1, "leave when month = 199;fly when not (hour = 23);");
+        due("11: month alone", x.unlike(1, 2, false), 19900);
+        due("11: hour alone", x.unlike(1, 2, true), 2300);
+        Check.treaty(x, 1, "fly when not (speed = 30);");
+        due("11: speed alone", x.unlike(1, 2, true), 30);
+        Check.treaty(x, 1, "fly when not (ground = 7);");
+        due("11: ground alone", x.unlike(1, 2, true), 70000);
         due("11: none", x.unlike(0, 3, true), -1);
         due("11: none", x.unlike(-1, 0, false), -1);
         due("11: none", x.unlike(HIGH, LOW, false), -1);
@@ -384,8 +403,25 @@ public final class PromisesTest {
         FastPlane far = Check.with(THREE_PARTS + "moves nose wing after 24;moves wing tail after 24;");
         far.change(0, 199);
         due("17: behind the last month", far.moves(2, 0), 247);
+        FastPlane twelve = twelve();
+        twelve.change(11, 3);
+        due("17: the last of twelve", twelve.moves(11, 0), 3);
+        due("17: through all twelve", twelve.moves(10, 0), 3 + 11);
         due("17: a circle without start", Check.with(THREE_PARTS + "moves nose wing after 0;moves wing nose after 0;")
             .moves(0, 0), -1);
+    }
+
+    /** Twelve parts, each of which moves the next one a month later. */
+    private static FastPlane twelve() {
+        StringBuilder text = new StringBuilder();
+        for (int i = 0; i < 12; i++) {
+            text.append("part p").append((char) ('a' + i)).append(" by 0 long 1 cm grows 0 costs ").append(i).append(";\n");
+        }
+        for (int i = 0; i < 12; i++) {
+            text.append("moves p").append((char) ('a' + i)).append(" p").append((char) ('a' + (i + 1) % 12))
+                .append(" after 1;");
+        }
+        return Check.with(text.toString());
     }
 
     private static void promise18() {
@@ -400,6 +436,8 @@ public final class PromisesTest {
         due("18: of all", x.cost(199, 0), 70);
         due("18: as known before", x.cost(199, -1), 0);
         due("18: the last", x.cost(999, 0), 0);
+        x.change(2, 0);
+        due("18: the first", x.cost(0, 0), 20);
         due("18: no such month", x.cost(1000, 0), -1);
         due("18: no such month", x.cost(-1, 0), -1);
         due("18: no such month", x.cost(LOW, 0), -1);
@@ -432,6 +470,10 @@ public final class PromisesTest {
         due("19: as known before", x.pays(0, 2, -1), 0);
         x.change(4, 199);
         due("19: all but nothing", x.pays(1, 2, 0), 40 + 500);
+        due("19: no more than all", x.pays(0, 0, 0), 79 + 999);
+        due("19: no less than nothing", x.pays(1, 0, 0), 0);
+        x.change(2, 0);
+        due("19: what moves in month 0", x.pays(0, 2, 0), 39 + 499 + 10);
         due("19: no such land", x.pays(2, 0, 0), -1);
         due("19: no such land", x.pays(-1, 0, 0), -1);
         due("19: no such tongue", x.pays(0, 3, 0), -1);
@@ -464,6 +506,9 @@ public final class PromisesTest {
         x.estimate(6, 1);
         due("20: a lesser month told later", x.over(9, 1), 99);
         due("20: a lesser month", x.over(6, 1), 0);
+        x.estimate(0, 100);
+        x.change(2, 0);
+        due("20: in month 0", x.over(0, 1), 2);
         due("20: no such month", x.over(200, 0), -1);
         due("20: no such month", x.over(-1, 0), -1);
         due("20: no such month", x.over(HIGH, 0), -1);
@@ -519,6 +564,11 @@ public final class PromisesTest {
         due("24: one is not enough", y.plan(6, 0, 0), -1);
         y.pump(3);
         due("24: three do as well", y.plan(6, 0, 0), 2);
+        FastPlane z = Check.with("tank at 0 holds 9;tank at 10 holds 9;");
+        z.bounds(5, 5);
+        due("24: not 3 at first", z.plan(7, 0, 0), -1);
+        z.pump(3);
+        due("24: but 3 then", z.plan(7, 0, 0), 3);
     }
 
     private static void promise25() {
@@ -593,6 +643,15 @@ public final class PromisesTest {
         due("26: the first step", x.move(1, 2, 0, 0), 100);
         due("26: the second step", x.move(1, 2, 0, 1), 100);
         due("26: no third step", x.move(1, 2, 0, 2), -1);
+        FastPlane three = startOf("tank at 0 holds 15; tank at 10 holds 15; tank at 20 holds 15;", 0, 99);
+        three.bounds(10, 10);
+        three.bounds(15, 15);
+        // In the end one is at 10 and one at 20; ahead of that three are in balance about 10.
+        due("26: a long flight", three.plan(5, 0, 0), 2);
+        int[] moves = {9 + 1, 9 + 2, 0};
+        for (int step = 0; step < 3; step++) {
+            due("26: a long flight, step " + step, three.move(5, 0, 0, step), moves[step]);
+        }
         x.land();
         x.bounds(0, 99);
         x.bounds(10, 10);
@@ -755,6 +814,15 @@ public final class PromisesTest {
         due("32: can't be", x.maker(0, -1), -1);
         Check.machine(x, "part a by 0 long 1 cm grows 0 costs 0;part b by 0 long 1 cm grows 0 costs 5;");
         due("32: costs nothing", x.maker(0, 100), 0);
+        FastPlane twelve = twelve();
+        due("32: twelve parts", twelve.shared(50), 0);
+        // 33 each: 1 + .. + 5 + 7 + 11 is the first.
+        int[] makers = {0, 0, 0, 0, 0, 0, 1, 0, 1, 1, 1, 0};
+        for (int part = 0; part < 12; part++) {
+            due("32: twelve parts, " + part, twelve.maker(part, 50), makers[part]);
+        }
+        due("32: the last of twelve", twelve.maker(11, 0), 0);
+        due("32: no thirteenth", twelve.maker(12, 0), -1);
         due("32: a new machine", x.maker(1, 100), 2);
     }
 
@@ -817,6 +885,16 @@ public final class PromisesTest {
         due("35: none", x.safe(0, -1, 0), -1);
         due("35: none", x.safe(0, 0, 7), -1);
         due("35: none", x.safe(0, 0, -1), -1);
+        FastPlane eight = new FastPlane();
+        for (int i = 0; i < 8; i++) {
+            eight.stage(3, 5);
+        }
+        due("35: eight stages", eight.safe(8, 16, 0), 1);
+        due("35: eight stages, one too little", eight.safe(8, 15, 0), 0);
+        due("35: eight stages, one too little", eight.safe(7, 16, 0), 0);
+        due("35: eight stages and six vetoes", eight.safe(20, 22, 6), 1);
+        due("35: eight stages and six vetoes", eight.safe(19, 22, 6), 0);
+        due("35: eight stages and six vetoes", eight.safe(20, 21, 6), 0);
         FastPlane cap = new FastPlane();
         cap.stage(20, 10);
         cap.stage(20, 10);

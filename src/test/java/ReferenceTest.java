@@ -11,6 +11,7 @@ public final class ReferenceTest {
     private final FastPlane plane = new FastPlane();
     private final Reference reference = new Reference();
     private final String run;
+    private final int[] begun = new int[3];
     private int theme;
 
     private ReferenceTest(int seed) {
@@ -184,12 +185,12 @@ public final class ReferenceTest {
     }
 
     private void flight() {
-        int kind = random.nextInt(8);
-        if (kind == 0 && random.nextInt(6) == 0) {
-            due("land()", plane.land(), reference.land());
-        } else if (kind < 2) {
+        int kind = random.nextInt(12);
+        if (kind == 0 || reference.about(5) == 0) {
+            newFlight();
+        } else if (kind == 1) {
             int from = any(0, 60);
-            int to = chance(8) ? any(Math.max(0, Math.min(from, 99)), 99) : any(0, 99);
+            int to = any(0, 99);
             due("bounds(" + from + ", " + to + ")", plane.bounds(from, to), reference.bounds(from, to));
         } else if (kind == 2) {
             int most = any(0, 3);
@@ -199,17 +200,67 @@ public final class ReferenceTest {
         }
     }
 
-    private void plan() {
-        int[] fuel = new int[3];
+    /** Bounds about what comes of drawn moves, so that there mostly is a plan. */
+    private void newFlight() {
+        due("land()", plane.land(), reference.land());
+        drawFuel();
+        int[] fuel = begun.clone();
+        int width = chance(3) ? 0 : random.nextInt(10);
+        for (int steps = 1 + random.nextInt(chance(3) ? 5 : 12); steps > 0 && drawnMove(fuel); steps--) {
+            int all = fuel[0] + fuel[1] + fuel[2];
+            int balance = 0;
+            for (int tank = 0; tank < 3; tank++) {
+                balance += fuel[tank] * reference.machine.tankAt(tank);
+            }
+            int middle = all == 0 ? 50 : balance / all;
+            int from = Math.max(0, middle - random.nextInt(width + 1));
+            int over = all > 0 && balance % all > 0 ? 1 : 0;
+            int to = Math.min(99, middle + over + random.nextInt(width + 1));
+            due("bounds(" + from + ", " + to + ")", plane.bounds(from, to), reference.bounds(from, to));
+        }
+    }
+
+    private void drawFuel() {
         for (int tank = 0; tank < 3; tank++) {
             int holds = reference.machine.tankHolds(tank);
-            fuel[tank] = random.nextInt(40) == 0 ? any(0, holds + 1) : random.nextInt(holds + 1);
+            begun[tank] = random.nextInt(6) == 0 ? holds : random.nextInt(holds + 1);
+        }
+    }
+
+    private boolean drawnMove(int[] fuel) {
+        int from = random.nextInt(3);
+        int to = random.nextInt(3);
+        int room = Math.min(fuel[from], reference.machine.tankHolds(to) - fuel[to]);
+        int pumped = from == to ? 0 : Math.min(room, random.nextInt(4));
+        fuel[from] -= pumped;
+        fuel[to] += pumped;
+        int burns = random.nextInt(3);
+        for (int i = 0; i < 3; i++) {
+            if (fuel[(burns + i) % 3] > 0) {
+                fuel[(burns + i) % 3]--;
+                return true;
+            }
+        }
+        return false;
+    }
+
+    private void plan() {
+        if (random.nextInt(3) == 0) {
+            drawFuel();
+        }
+        int[] fuel = begun.clone();
+        if (random.nextInt(30) == 0) {
+            int tank = random.nextInt(3);
+            fuel[tank] = any(0, reference.machine.tankHolds(tank) + 1);
         }
         int a = fuel[0];
         int b = fuel[1];
         int c = fuel[2];
         String shown = "(" + a + ", " + b + ", " + c;
         due("plan" + shown + ")", plane.plan(a, b, c), reference.plan(a, b, c));
+        for (int step = 0; step < reference.about(5); step++) {
+            due("move" + shown + ", " + step + ")", plane.move(a, b, c, step), reference.move(a, b, c, step));
+        }
         int step = any(0, 11);
         due("move" + shown + ", " + step + ")", plane.move(a, b, c, step), reference.move(a, b, c, step));
     }
@@ -259,9 +310,9 @@ public final class ReferenceTest {
         int first = any(0, 30);
         int second = any(0, 30);
         int vetoes = any(0, 6);
-        switch (random.nextInt(8)) {
+        switch (reference.about(9) < 2 ? 0 : random.nextInt(8)) {
             case 0 -> {
-                int cost = chance(3) ? any(0, 12) : any(0, 30);
+                int cost = chance(4) ? any(0, 8) : any(0, 30);
                 int part = any(0, 10);
                 due("stage(" + cost + ", " + part + ")", plane.stage(cost, part), reference.stage(cost, part));
             }
