@@ -650,9 +650,8 @@ public final class FastPlane {
         boolean read(Tape tape) {
             clear();
             tape.begin();
-            while (tape.sound() && tape.kind != Tape.END && lines < Tape.MOST_BYTES) {
+            for (lines = 0; lines < Tape.MOST_BYTES && tape.sound() && tape.kind != Tape.END; lines++) {
                 readLine(tape);
-                lines++;
             }
             return tape.sound();
         }
@@ -674,7 +673,6 @@ public final class FastPlane {
         }
 
         private void clear() {
-            lines = 0;
             parts = 0;
             joins = 0;
             moves = 0;
@@ -934,14 +932,12 @@ public final class FastPlane {
 
         /** Whether the tape's text is a treaty; if not, this one is not to be used. */
         boolean read(Tape tape) {
-            lines = 0;
             units = 0;
             length = 0;
             Arrays.fill(start, NONE);
             tape.begin();
-            while (tape.sound() && tape.kind != Tape.END && lines < LINES + 1) {
+            for (lines = 0; lines <= LINES && tape.sound() && tape.kind != Tape.END; lines++) {
                 readLine(tape);
-                lines++;
             }
             return tape.sound();
         }
