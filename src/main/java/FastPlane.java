@@ -1805,6 +1805,7 @@ public final class FastPlane {
         private static final int MONEYS = MOST_MONEY + 1;
         private static final int GAMES = (MOST_SLACK + 1) * (MOST_VETOES + 1) * MONEYS;
         private static final int LOST = MOST_MONEY + 1;
+        private static final int ROWS = 2;
 
         int count;
         private int grant;
@@ -1812,9 +1813,9 @@ public final class FastPlane {
         private boolean known;
         private final int[] cost = new int[MOST];
         private final int[] tenths = new int[MOST];
-        // The least money of LAND 1 that is SAFE, by STAGES done, and by WAITS and VETOES that are
-        // left and the money of LAND 0.
-        private final int[][] least = new int[MOST][GAMES];
+        // The least money of LAND 1 that is SAFE, by WAITS and VETOES that are left and the money of
+        // LAND 0; of all STAGES done only this one and the next are asked for, so two rows are enough.
+        private final int[][] least = new int[ROWS][GAMES];
 
         int add(int newCost, int newTenths) {
             if (!within(newCost, 0, 30) || !within(newTenths, 0, 10) || count >= MOST) {
@@ -1871,7 +1872,7 @@ public final class FastPlane {
             int vetoes = game / MONEYS % (MOST_VETOES + 1);
             int waits = game / MONEYS / (MOST_VETOES + 1);
             int goingOn = leastGoingOn(stage, waits, vetoes, first);
-            least[stage][game] = Math.min(goingOn, leastWaiting(stage, waits, vetoes, first));
+            least[stage % ROWS][game] = Math.min(goingOn, leastWaiting(stage, waits, vetoes, first));
         }
 
         private int leastGoingOn(int stage, int waits, int vetoes, int first) {
@@ -1900,7 +1901,7 @@ public final class FastPlane {
             if (!inside || stage == count) {
                 return inside ? 0 : LOST;
             }
-            return least[stage][(waits * (MOST_VETOES + 1) + vetoes) * MONEYS + first];
+            return least[stage % ROWS][(waits * (MOST_VETOES + 1) + vetoes) * MONEYS + first];
         }
     }
 }
