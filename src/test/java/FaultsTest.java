@@ -170,6 +170,7 @@ public final class FaultsTest {
             machineFault(A + "join a ", word + " gap 0", 2);
         }
         machineFault("row 7 aaaaaaaa;row ", "7 aaaaaaaa;", 3);
+        machineFault("row 3 aaaaaaaa;row 7 aaaaaaaa;row 5 aaaaaaaa;row ", "3 aaaaaaaa;", 3);
         machineFault("row 0 ", "5;", 2);
         machineFault("row 0 ", ";", 2);
         machineFault("row 0 aaaaaaaa ", "b;", 2);

@@ -265,6 +265,13 @@ public final class PromisesTest {
         FastPlane speed = Check.with("part a by 0 long 100 cm grows 99 costs 0;part b by 0 long 100 cm grows 0 costs 0;"
             + "join b a gap 0;");
         due("10: at speed 0", speed.mend(0), -1);
+        FastPlane grown = Check.with("part a by 0 long 999 inch grows 99 costs 0;part b by 0 long 998 inch grows 0 costs 0;"
+            + "join b a gap 5;");
+        due("10: at speed 0", grown.mend(1), 25349 + 5);
+        due("10: at speed 0", grown.mend(0), 0);
+        FastPlane other = Check.with("part a by 0 long 999 inch grows 0 costs 0;part b by 0 long 998 inch grows 99 costs 0;"
+            + "join b a gap 5;");
+        due("10: at speed 0", other.mend(1), 25349 + 5);
         FastPlane one = Check.with("part a by 0 long 50 cm grows 0 costs 0;part b by 0 long 50 inch grows 0 costs 0;"
             + "part c by 0 long 127 cm grows 0 costs 0;part d by 0 long 102 cm grows 0 costs 0;"
             + "part e by 0 long 40 inch grows 0 costs 0;join b c gap 0;join d e gap 3;");
