@@ -24,36 +24,19 @@ public final class FaultsTest {
     }
 
     private static void machine(String text, int lines) {
-        FastPlane x = new FastPlane();
-        check.due("machine(" + text + ")", Check.machine(x, text), lines);
-        check.due("fault(0) of " + text, x.fault(0), 0);
-        check.due("fault(1) of " + text, x.fault(1), -1);
+        check.takesMachine(text, lines);
     }
 
-    private static void machineFault(String text, int fault, int place) {
-        FastPlane x = new FastPlane();
-        check.due("machine(" + text + ")", Check.machine(x, text), -1);
-        check.due("fault(0) of " + text, x.fault(0), fault);
-        check.due("fault(1) of " + text, x.fault(1), place);
-    }
-
-    /** What is wrong stands behind the first text. */
     private static void machineFault(String before, String text, int fault) {
-        machineFault(before + text, fault, before.length());
+        check.refusesMachine(before, text, fault);
     }
 
     private static void treaty(String text, int lines) {
-        FastPlane x = new FastPlane();
-        check.due("treaty(" + text + ")", Check.treaty(x, 1, text), lines);
-        check.due("fault(0) of " + text, x.fault(0), 0);
-        check.due("fault(1) of " + text, x.fault(1), -1);
+        check.takesTreaty(text, lines);
     }
 
     private static void treatyFault(String before, String text, int fault) {
-        FastPlane x = new FastPlane();
-        check.due("treaty(" + before + text + ")", Check.treaty(x, 1, before + text), -1);
-        check.due("fault(0) of " + before + text, x.fault(0), fault);
-        check.due("fault(1) of " + before + text, x.fault(1), before.length());
+        check.refusesTreaty(before, text, fault);
     }
 
     private static void soundMachines() {

@@ -1,7 +1,7 @@
 /** Every promise by itself: ordinary calls, the edges that the document names, and wrong inputs. */
 public final class PromisesTest {
-    private static final int LOW = Integer.MIN_VALUE;
-    private static final int HIGH = Integer.MAX_VALUE;
+    private static final int LOW = Check.LOW;
+    private static final int HIGH = Check.HIGH;
     private static final String THREE_PARTS = "part nose by 0 long 100 cm grows 10 costs 40;"
         + "part wing by 1 long 40 inch grows 5 costs 30;"
         + "part tail by 0 long 101 cm grows 0 costs 20;";
