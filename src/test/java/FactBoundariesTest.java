@@ -440,6 +440,23 @@ public final class FactBoundariesTest {
         c.due("a month behind 199", far.pays(0, 0, 0), 100);
     }
 
+    @Says(promise = 19, words = "What a LAND pays for all by a TONGUE")
+    static void promise19_allTwelve(Check c) {
+        StringBuilder text = new StringBuilder();
+        for (int i = 0; i < 12; i++) {
+            text.append(Check.part(String.valueOf((char) ('a' + i)), 1, 999));
+        }
+        FastPlane x = Check.with(text.toString());
+        for (int parts = 1; parts <= 12; parts++) {
+            x.change(parts - 1, 199);
+            c.due("land 0 for " + parts, x.pays(0, 2, 0), 499 * parts);
+            c.due("land 1 for " + parts, x.pays(1, 2, 0), 500 * parts);
+        }
+        Check.treaty(x, 2, "share 100;");
+        c.due("land 0 for all", x.pays(0, 2, 0), 11988);
+        c.due("land 1 for nothing", x.pays(1, 2, 0), 0);
+    }
+
     @Says(promise = 19, words = {"What a LAND pays for all by a TONGUE", "A PART MOVES"})
     static void promise19_onlyWhatMovesIsPaid(Check c) {
         FastPlane x = Check.with(THREE + "moves a b after 3;");

@@ -233,6 +233,46 @@ public final class FlightBoundariesTest {
         c.due("room for two", most.plan(13, 4, 0), -1);
     }
 
+    private static FastPlane flight(String tanks, int pump, int from, int to) {
+        FastPlane x = flight(tanks, from, to);
+        x.pump(pump);
+        return x;
+    }
+
+    @Says(promise = 25, words = {"1 is burnt from a TANK that has some", "TANKS have so much as it begins (0 .. holds each)"})
+    static void promise25_noMoreThanIsThereAndNoMoreThanFits(Check c) {
+        FastPlane burnt = flight("tank at 0 holds 15; tank at 10 holds 15; tank at 99 holds 15;", 3, 10, 10);
+        c.due("an empty tank does not burn", burnt.plan(1, 0, 15), -1);
+        FastPlane full = flight("tank at 99 holds 15; tank at 20 holds 15; tank at 0 holds 15;", 0, 13, 45);
+        c.due("nor does it burn ahead of one that has some", full.plan(3, 0, 15), 0);
+        c.due("nor does it burn ahead of one that has some", full.move(3, 0, 15, 0), 200);
+        FastPlane pumped = flight("tank at 10 holds 15; tank at 20 holds 15; tank at 0 holds 15;", 2, 0, 13);
+        c.due("nothing comes out of an empty tank", pumped.plan(0, 14, 0), -1);
+        FastPlane both = flight("tank at 50 holds 15; tank at 20 holds 15; tank at 0 holds 15;", 2, 18, 48);
+        c.due("nothing goes into a full tank", both.plan(0, 0, 15), -1);
+        FastPlane over = flight("tank at 20 holds 15; tank at 90 holds 15; tank at 20 holds 15;", 3, 20, 20);
+        c.due("nothing goes into a full tank", over.plan(1, 15, 0), -1);
+        FastPlane turned = flight("tank at 0 holds 15; tank at 10 holds 15; tank at 99 holds 15;", 3, 92, 93);
+        c.due("nothing goes into a full tank", turned.plan(0, 15, 1), -1);
+    }
+
+    @Says(promise = 25, words = "3 TANKS (at 0 .. 99; holds 1 .. 15)")
+    static void promise25_tanksThatAreFull(Check c) {
+        FastPlane like = flight("tank at 10 holds 15; tank at 10 holds 15; tank at 10 holds 15;", 10, 10);
+        c.due("two are full", like.plan(15, 15, 0), 0);
+        c.due("two are full", like.move(15, 15, 0, 0), 0);
+        c.due("all are full", like.plan(15, 15, 15), 0);
+        c.due("all are full", like.move(15, 15, 15, 0), 0);
+        FastPlane last = flight("tank at 50 holds 15; tank at 50 holds 15; tank at 0 holds 15;", 48, 49);
+        last.bounds(50, 50);
+        c.due("two stay full", last.plan(15, 15, 2), 0);
+        c.due("tank 2 burns", last.move(15, 15, 2, 0), 200);
+        c.due("tank 2 burns", last.move(15, 15, 2, 1), 200);
+        FastPlane filled = flight("tank at 90 holds 15; tank at 20 holds 15; tank at 99 holds 15;", 53, 54);
+        c.due("one is filled", filled.plan(15, 13, 2), 2);
+        c.due("by tank 2, and tank 0 burns", filled.move(15, 13, 2, 0), 18 + 6 + 1);
+    }
+
     @Says(promise = 25, words = "PLAN: the least pumped in all")
     static void promise25_theLeastInAll(Check c) {
         FastPlane x = flight("tank at 0 holds 15; tank at 10 holds 15;", 0, 99);
@@ -312,6 +352,26 @@ public final class FlightBoundariesTest {
         c.due("three in all", later.plan(8, 0, 0), 3);
         c.due("one first", later.move(8, 0, 0, 0), 9 + 1);
         c.due("two then", later.move(8, 0, 0, 1), 18 + 1);
+    }
+
+    @Says(promise = 26, words = {"of like ones the first by MOVES, STEP by STEP", "first up to PUMP"})
+    static void promise26_whoBurnsComesFirst(Check c) {
+        FastPlane x = flight("tank at 20 holds 15; tank at 10 holds 15; tank at 90 holds 15;", 1, 14, 33);
+        c.due("what is left is in tank 0", x.plan(0, 1, 1), 1);
+        c.due("tank 1 burns ahead of tank 2, though it is pumped from a later one", x.move(0, 1, 1, 0), 100 + 9 + 6);
+        FastPlane y = flight("tank at 0 holds 15; tank at 10 holds 15; tank at 20 holds 15;", 1, 4, 18);
+        c.due("one is pumped", y.plan(0, 1, 15), 1);
+        c.due("only tank 2 can burn then", y.move(0, 1, 15, 0), 200 + 9 + 6);
+        // Two at once would let TANK 0 burn first, but PUMP is 1.
+        FastPlane once = flight("tank at 20 holds 15; tank at 99 holds 15; tank at 10 holds 15;", 1, 20, 30);
+        once.bounds(29, 30);
+        c.due("two in all", once.plan(5, 3, 0), 2);
+        c.due("one in the first step", once.move(5, 3, 0, 0), 100 + 9 + 3 + 2);
+        c.due("one in the second step", once.move(5, 3, 0, 1), 9 + 2);
+        once.pump(2);
+        c.due("with PUMP 2 still two in all", once.plan(5, 3, 0), 2);
+        c.due("both in the first step", once.move(5, 3, 0, 0), 18 + 3 + 2);
+        c.due("none in the second step", once.move(5, 3, 0, 1), 0);
     }
 
     @Says(promise = 26, words = "The MOVE of a STEP (0 ..) of it")

@@ -2,8 +2,10 @@ import java.util.Random;
 
 /** Runs of drawn calls, held against Reference; the same ones each time, for the draw has a seed. */
 public final class ReferenceTest {
-    private static final int RUNS = 300;
-    private static final int CALLS = 90;
+    private static final int RUNS = 400;
+    private static final int ROUNDS = 90;
+    // An object is used for 512 calls at most; a round and the end take fewer than 110.
+    private static final int MOST_CALLS = 400;
     private static final Check check = new Check("ReferenceTest");
 
     private final Random random;
@@ -13,6 +15,7 @@ public final class ReferenceTest {
     private final String run;
     private final int[] begun = new int[3];
     private int theme;
+    private int calls;
 
     private ReferenceTest(int seed) {
         random = new Random(seed);
@@ -37,7 +40,7 @@ public final class ReferenceTest {
             }
         }
         theme = random.nextInt(6);
-        for (int i = 0; i < CALLS && !check.failed(); i++) {
+        for (int i = 0; i < ROUNDS && calls < MOST_CALLS && !check.failed(); i++) {
             call(chance(3) ? 6 + random.nextInt(3) : theme);
         }
         for (int what = -1; what <= 13; what++) {
@@ -83,10 +86,12 @@ public final class ReferenceTest {
     }
 
     private void due(String call, long got, long want) {
+        calls++;
         check.due(run + call, got, want);
     }
 
     private void due(String call, boolean got, boolean want) {
+        calls++;
         check.due(run + call, got, want);
     }
 
@@ -104,6 +109,7 @@ public final class ReferenceTest {
     }
 
     private void fault(String of) {
+        calls += of.length() / 20 + 3;
         due("fault(0) of " + of, plane.fault(0), reference.fault(0));
         due("fault(1) of " + of, plane.fault(1), reference.fault(1));
     }

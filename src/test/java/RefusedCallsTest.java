@@ -118,13 +118,28 @@ public final class RefusedCallsTest {
     }
 
     /** Each of these is refused, and leaves all as it is. */
-    private static void refuses(Check c, Supplier<FastPlane> made, int answer, List<ToIntFunction<FastPlane>> calls) {
+    private static void refuses(Check c, Supplier<FastPlane> made, int answer, ToIntFunction<FastPlane>[] calls) {
         List<Integer> due = answers(made.get());
-        for (int i = 0; i < calls.size(); i++) {
+        for (int i = 0; i < calls.length; i++) {
             FastPlane x = made.get();
-            c.due("refused call " + i, calls.get(i).applyAsInt(x), answer);
+            c.due("refused call " + i, calls[i].applyAsInt(x), answer);
             c.due("all else behind refused call " + i, answers(x).equals(due), true);
         }
+    }
+
+    @SafeVarargs
+    private static void ofSome(Check c, int answer, ToIntFunction<FastPlane>... calls) {
+        refuses(c, RefusedCallsTest::some, answer, calls);
+    }
+
+    @SafeVarargs
+    private static void ofLate(Check c, int answer, ToIntFunction<FastPlane>... calls) {
+        refuses(c, RefusedCallsTest::late, answer, calls);
+    }
+
+    @SafeVarargs
+    private static void ofFull(Check c, int answer, ToIntFunction<FastPlane>... calls) {
+        refuses(c, RefusedCallsTest::full, answer, calls);
     }
 
     private static int bit(boolean answer) {
@@ -133,19 +148,19 @@ public final class RefusedCallsTest {
 
     @Says(promise = 2, words = "NONE, and nothing comes, if there would be more than 1,300.")
     static void promise2_aRefusedFeedLeavesAll(Check c) {
-        refuses(c, RefusedCallsTest::full, -1, List.of(x -> x.feed(0, 0, 0, 0, 0), x -> x.feed(0x3f3f3f3f, 1, 2, 3, 4)));
+        ofFull(c, -1, x -> x.feed(0, 0, 0, 0, 0), x -> x.feed(0x3f3f3f3f, 1, 2, 3, 4));
     }
 
     @Says(promise = 3, words = "NONE, doing nothing, if it has not so many, or n is below 0.")
     static void promise3_aRefusedEndLeavesAll(Check c) {
-        refuses(c, RefusedCallsTest::some, -1, List.of(x -> x.end(19), x -> x.end(-1), x -> x.end(LOW), x -> x.end(HIGH), x -> x.end(1300)));
-        refuses(c, RefusedCallsTest::full, -1, List.of(x -> x.end(1282), x -> x.end(-1), x -> x.end(1301)));
+        ofSome(c, -1, x -> x.end(19), x -> x.end(-1), x -> x.end(LOW), x -> x.end(HIGH), x -> x.end(1300));
+        ofFull(c, -1, x -> x.end(1282), x -> x.end(-1), x -> x.end(1301));
     }
 
     @Says(promise = 5, words = "-2, and the TAPE stays: more than 700 bytes, or no such TONGUE.")
     static void promise5_minusTwoLeavesAll(Check c) {
-        refuses(c, RefusedCallsTest::some, -2, List.of(x -> x.treaty(-1), x -> x.treaty(3), x -> x.treaty(LOW), x -> x.treaty(HIGH)));
-        refuses(c, RefusedCallsTest::full, -2, List.of(x -> x.treaty(0), x -> x.treaty(2), x -> x.treaty(3), x -> x.treaty(-1)));
+        ofSome(c, -2, x -> x.treaty(-1), x -> x.treaty(3), x -> x.treaty(LOW), x -> x.treaty(HIGH));
+        ofFull(c, -2, x -> x.treaty(0), x -> x.treaty(2), x -> x.treaty(3), x -> x.treaty(-1));
     }
 
     @Says(promise = 4, words = "NONE: a FAULT (the TAPE is empty then, too; all else stays).")
@@ -188,81 +203,81 @@ public final class RefusedCallsTest {
 
     @Says(promise = 12, words = "NONE, doing nothing, if it can't be, or there are 200.")
     static void promise12_aRefusedChangeLeavesAll(Check c) {
-        refuses(c, RefusedCallsTest::some, -1, List.of(x -> x.change(-1, 0), x -> x.change(3, 0), x -> x.change(0, -1), x -> x.change(0, 200),
-            x -> x.change(LOW, 5), x -> x.change(5, HIGH)));
-        refuses(c, RefusedCallsTest::full, -1, List.of(x -> x.change(0, 0), x -> x.change(2, 199), x -> x.change(3, 0)));
+        ofSome(c, -1, x -> x.change(-1, 0), x -> x.change(3, 0), x -> x.change(0, -1), x -> x.change(0, 200),
+            x -> x.change(LOW, 5), x -> x.change(5, HIGH));
+        ofFull(c, -1, x -> x.change(0, 0), x -> x.change(2, 199), x -> x.change(3, 0));
     }
 
     @Says(promise = 13, words = "An ESTIMATE: likewise.")
     static void promise13_aRefusedEstimateLeavesAll(Check c) {
-        refuses(c, RefusedCallsTest::some, -1, List.of(x -> x.estimate(-1, 1), x -> x.estimate(200, 1), x -> x.estimate(0, -1),
-            x -> x.estimate(0, 100000), x -> x.estimate(LOW, HIGH)));
-        refuses(c, RefusedCallsTest::full, -1, List.of(x -> x.estimate(0, 1), x -> x.estimate(199, 0)));
+        ofSome(c, -1, x -> x.estimate(-1, 1), x -> x.estimate(200, 1), x -> x.estimate(0, -1),
+            x -> x.estimate(0, 100000), x -> x.estimate(LOW, HIGH));
+        ofFull(c, -1, x -> x.estimate(0, 1), x -> x.estimate(199, 0));
     }
 
     @Says(promise = 14, words = "SHOWN: likewise (bits 1 .. 255).")
     static void promise14_aRefusedShowLeavesAll(Check c) {
-        refuses(c, RefusedCallsTest::some, -1, List.of(x -> x.show(-1, 1), x -> x.show(200, 1), x -> x.show(0, 0), x -> x.show(0, 256),
-            x -> x.show(0, -1), x -> x.show(HIGH, LOW)));
-        refuses(c, RefusedCallsTest::full, -1, List.of(x -> x.show(0, 8), x -> x.show(199, 255)));
+        ofSome(c, -1, x -> x.show(-1, 1), x -> x.show(200, 1), x -> x.show(0, 0), x -> x.show(0, 256),
+            x -> x.show(0, -1), x -> x.show(HIGH, LOW));
+        ofFull(c, -1, x -> x.show(0, 8), x -> x.show(199, 255));
     }
 
     @Says(promise = 15, words = "false if it is so already, or there is none such.")
     static void promise15_aRefusedUntellLeavesAll(Check c) {
-        refuses(c, RefusedCallsTest::some, 0, List.of(x -> bit(x.untell(0)), x -> bit(x.untell(-1)), x -> bit(x.untell(4)),
-            x -> bit(x.untell(LOW)), x -> bit(x.untell(HIGH))));
-        refuses(c, RefusedCallsTest::full, 0, List.of(x -> bit(x.untell(200)), x -> bit(x.untell(-1))));
+        ofSome(c, 0, x -> bit(x.untell(0)), x -> bit(x.untell(-1)), x -> bit(x.untell(4)),
+            x -> bit(x.untell(LOW)), x -> bit(x.untell(HIGH)));
+        ofFull(c, 0, x -> bit(x.untell(200)), x -> bit(x.untell(-1)));
     }
 
     @Says(promise = 16, words = "NONE, doing nothing, for another number, or if it would be above 100,000.")
     static void promise16_aRefusedLaterLeavesAll(Check c) {
-        refuses(c, RefusedCallsTest::some, -1, List.of(x -> x.later(-1), x -> x.later(1001), x -> x.later(LOW), x -> x.later(HIGH)));
-        refuses(c, RefusedCallsTest::late, -1, List.of(x -> x.later(1), x -> x.later(1000), x -> x.later(-1),
-            x -> x.later(HIGH)));
+        ofSome(c, -1, x -> x.later(-1), x -> x.later(1001), x -> x.later(LOW), x -> x.later(HIGH));
+        ofLate(c, -1, x -> x.later(1), x -> x.later(1000), x -> x.later(-1),
+            x -> x.later(HIGH));
     }
 
     @Says(promise = 22, words = {"NONE, doing nothing, if they can't be (the second below the first), or there are 12."})
     static void promise22_refusedBoundsLeaveAll(Check c) {
-        refuses(c, RefusedCallsTest::some, -1, List.of(x -> x.bounds(1, 0), x -> x.bounds(-1, 5), x -> x.bounds(5, 100),
-            x -> x.bounds(LOW, HIGH), x -> x.bounds(100, 100)));
-        refuses(c, RefusedCallsTest::full, -1, List.of(x -> x.bounds(0, 0), x -> x.bounds(0, 99), x -> x.bounds(1, 0)));
+        ofSome(c, -1, x -> x.bounds(1, 0), x -> x.bounds(-1, 5), x -> x.bounds(5, 100),
+            x -> x.bounds(LOW, HIGH), x -> x.bounds(100, 100));
+        ofFull(c, -1, x -> x.bounds(0, 0), x -> x.bounds(0, 99), x -> x.bounds(1, 0));
     }
 
     @Says(promise = 24, words = "false, doing nothing, if it can't be.")
     static void promise24_aRefusedPumpLeavesAll(Check c) {
-        refuses(c, RefusedCallsTest::some, 0, List.of(x -> bit(x.pump(-1)), x -> bit(x.pump(4)), x -> bit(x.pump(LOW)),
-            x -> bit(x.pump(HIGH))));
+        ofSome(c, 0, x -> bit(x.pump(-1)), x -> bit(x.pump(4)), x -> bit(x.pump(LOW)),
+            x -> bit(x.pump(HIGH)));
     }
 
     @Says(promise = 28, words = "NONE, doing nothing, if one can't be, or there are 10.")
     static void promise28_aRefusedAirlineLeavesAll(Check c) {
-        refuses(c, RefusedCallsTest::some, -1, List.of(x -> x.airline(-1, 0), x -> x.airline(1000, 0), x -> x.airline(0, -1),
-            x -> x.airline(0, 200), x -> x.airline(LOW, HIGH)));
-        refuses(c, RefusedCallsTest::full, -1, List.of(x -> x.airline(0, 199), x -> x.airline(999, 0)));
+        ofSome(c, -1, x -> x.airline(-1, 0), x -> x.airline(1000, 0), x -> x.airline(0, -1),
+            x -> x.airline(0, 200), x -> x.airline(LOW, HIGH));
+        ofFull(c, -1, x -> x.airline(0, 199), x -> x.airline(999, 0));
     }
 
     @Says(promise = 33, words = "NONE, doing nothing, if one can't be, or there are 8.")
     static void promise33_aRefusedStageLeavesAll(Check c) {
-        refuses(c, RefusedCallsTest::some, -1, List.of(x -> x.stage(-1, 0), x -> x.stage(31, 0), x -> x.stage(0, -1), x -> x.stage(0, 11),
-            x -> x.stage(LOW, HIGH)));
-        refuses(c, RefusedCallsTest::full, -1, List.of(x -> x.stage(0, 0), x -> x.stage(30, 10), x -> x.stage(1, 5)));
+        ofSome(c, -1, x -> x.stage(-1, 0), x -> x.stage(31, 0), x -> x.stage(0, -1), x -> x.stage(0, 11),
+            x -> x.stage(LOW, HIGH));
+        ofFull(c, -1, x -> x.stage(0, 0), x -> x.stage(30, 10), x -> x.stage(1, 5));
     }
 
     @Says(promise = 34, words = "false, doing nothing, if one can't be.")
     static void promise34_aRefusedGrantLeavesAll(Check c) {
-        refuses(c, RefusedCallsTest::some, 0, List.of(x -> bit(x.grant(-1, 0)), x -> bit(x.grant(10, 0)), x -> bit(x.grant(0, -1)),
-            x -> bit(x.grant(0, 5)), x -> bit(x.grant(9, 5)), x -> bit(x.grant(10, 4)), x -> bit(x.grant(LOW, HIGH))));
+        ofSome(c, 0, x -> bit(x.grant(-1, 0)), x -> bit(x.grant(10, 0)), x -> bit(x.grant(0, -1)),
+            x -> bit(x.grant(0, 5)), x -> bit(x.grant(9, 5)), x -> bit(x.grant(10, 4)), x -> bit(x.grant(LOW, HIGH)));
     }
 
     @Says(promise = 38, words = "NONE if")
     static void promise38_refusedQuestionsLeaveAll(Check c) {
-        refuses(c, RefusedCallsTest::some, -1, List.of(x -> x.fault(2), x -> x.mm(3, 0), x -> x.mm(0, 31), x -> x.clash(31),
+        ofSome(c, -1, x -> x.fault(2), x -> x.mm(3, 0), x -> x.mm(0, 31), x -> x.clash(31),
             x -> x.breaks(3), x -> x.mend(3), x -> x.unlike(0, 3, true), x -> x.moves(3, 7), x -> x.cost(1000, 7),
-            x -> x.pays(2, 0, 7)));
-        refuses(c, RefusedCallsTest::some, -1, List.of(x -> x.over(200, 7), x -> x.leave(200, 0, 7), x -> x.plan(6, 0, 0),
+            x -> x.pays(2, 0, 7));
+        ofSome(c, -1, x -> x.over(200, 7), x -> x.leave(200, 0, 7), x -> x.plan(6, 0, 0),
             x -> x.move(1, 1, 1, 2), x -> x.soonest(0, 64, 0, 0, 0, 9), x -> x.hold(200, 0, 7), x -> x.lapse(3, 0, 0, 7),
-            x -> x.shared(101), x -> x.maker(3, 45), x -> x.safe(31, 0, 0)));
-        refuses(c, RefusedCallsTest::some, -1, List.of(x -> x.bears(31, 0), x -> x.should(0, 31, 0), x -> x.about(13), x -> x.about(-1)));
+            x -> x.shared(101), x -> x.maker(3, 45), x -> x.safe(31, 0, 0));
+        ofSome(c, -1, x -> x.bears(31, 0), x -> x.should(0, 31, 0), x -> x.about(13), x -> x.about(-1));
     }
 
     @Says(promise = 38, words = "Nothing is promised beyond the answers and state changes described above")

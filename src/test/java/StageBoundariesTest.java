@@ -184,6 +184,24 @@ public final class StageBoundariesTest {
         c.due("not one twice", both.safe(10, 0, 0), 0);
     }
 
+    @Says(promise = 35, words = {"no more than SLACK times in all", "SAFE with so many VETOES (0 .. 6)"})
+    static void promise35_eachSlackWithEachVetoes(Check c) {
+        // LAND 0 pays 8 and 2 more for each VETO, LAND 1 pays 16 and 1 more; each gets 1 for each WAIT.
+        FastPlane x = stages(3, 5, 3, 5, 3, 5, 3, 5, 3, 5, 3, 5, 3, 5, 3, 5);
+        for (int slack = 0; slack <= 4; slack++) {
+            x.grant(1, slack);
+            for (int vetoes = 0; vetoes <= 6; vetoes++) {
+                int first = 8 + 2 * vetoes - slack;
+                int second = 16 + vetoes - slack;
+                String said = slack + " and " + vetoes + ": ";
+                c.due(said + "just enough", x.safe(first, second, vetoes), 1);
+                c.due(said + "land 0 lacks one", x.safe(first - 1, 30 - slack, vetoes), 0);
+                c.due(said + "land 1 lacks one", x.safe(30 - slack, second - 1, vetoes), 0);
+                c.due(said + "what to do", x.should(first, second, vetoes) >= 0, true);
+            }
+        }
+    }
+
     @Says(promise = 35, words = "each LAND gets GRANT, up to 30)")
     static void promise35_moneyUpTo30(Check c) {
         // 60 in all of LAND 0: who WAITS with 29 gets only 1.

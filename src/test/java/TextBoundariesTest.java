@@ -297,6 +297,11 @@ public final class TextBoundariesTest {
         Check.machine(x, A + TANK);
         c.due("one part", x.mm(0, 0), 10);
         c.due("and no second", x.mm(1, 0), -1);
+        c.due("no joins", x.about(1), 0);
+        c.due("no joins", x.clash(0), 0);
+        c.due("no moves", x.about(2), 0);
+        c.due("row 0 is not told", x.soonest(1, 0, 0, 0, 128, 99), 103);
+        c.due("row 7 is not told", x.soonest(62, 63, 0, 0, 128, 99), 103);
         x.bounds(0, 99);
         c.due("one tank", x.plan(1, 0, 0), 0);
         c.due("and no second", x.plan(1, 1, 0), -1);
@@ -304,6 +309,23 @@ public final class TextBoundariesTest {
         c.due("told in the machine before, not in this one", x.about(0), 1);
         c.due("row 0 again", x.soonest(1, 0, 0, 0, 128, 99), 302);
         c.due("the new length", x.mm(0, 0), 20);
+    }
+
+    @Says(promise = 4, words = {"The TAPE (empty then) is THE MACHINE", "NONE: a FAULT"})
+    static void promise4_nothingIsLeftOfATextWithAFault(Check c) {
+        FastPlane x = new FastPlane();
+        for (int round = 0; round < 3; round++) {
+            Check.machine(x, Check.parts(12) + JOIN.repeat(3) + MOVES.repeat(3) + TANK.repeat(3)
+                + "row 0 hhhhhhhh;row 7 hhhhhhhh;?");
+            c.due("a fault", x.fault(0), 1);
+            c.due("a text of one line", Check.machine(x, "row " + (round + 1) + " aaaaaaaa;"), 1);
+            for (int what = 0; what <= 3; what++) {
+                c.due("about(" + what + ")", x.about(what), 0);
+            }
+            c.due("row 0", x.soonest(1, 0, 0, 0, 128, 99), 103);
+            c.due("row 7", x.soonest(62, 63, 0, 0, 128, 99), 103);
+            c.due("rows may be told", Check.machine(x, "row 7 aaaaaaaa;row 0 aaaaaaaa;" + Check.parts(2) + JOIN), 5);
+        }
     }
 
     @Says(promise = 4, words = "NONE: a FAULT (the TAPE is empty then, too; all else stays).")
@@ -627,6 +649,15 @@ public final class TextBoundariesTest {
             c.refusesMachine("row " + (row + 1) % 8 + " hhhhhhhh;" + told + "row ", row + " ?", 3);
             c.takesMachine(told + "row " + (row + 1) % 8 + " aaaaaaaa;row " + (row + 7) % 8 + " bbbbbbbb;", 3);
         }
+        String all = "";
+        for (int row = 0; row < 8; row++) {
+            all += "row " + (5 * row + 3) % 8 + " aaaaaaaa;";
+        }
+        c.takesMachine(all, 8);
+        for (int row = 0; row < 8; row++) {
+            c.refusesMachine(all + "row ", row + " aaaaaaaa;", 3);
+        }
+        c.refusesMachine(all + "row ", "8 aaaaaaaa;", 4);
         c.refusesMachine("row 0 aaaaaaaa;row ", "8 aaaaaaaa;", 4);
         c.refusesMachine("row 7 aaaaaaaa;row ", "39 aaaaaaaa;", 4);
     }

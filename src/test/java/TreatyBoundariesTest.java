@@ -131,6 +131,32 @@ public final class TreatyBoundariesTest {
         c.due("keep", x.hold(0, 0, 0), 1);
     }
 
+    @Says(promise = 5, words = {"is the TREATY in a TONGUE", "NONE: a FAULT (it stays)"})
+    static void promise5_nothingIsLeftOfATextWithAFault(Check c) {
+        FastPlane x = Check.with(Check.part("a", 1, 100));
+        x.change(0, 0);
+        x.airline(5, 9);
+        for (int tongue = 0; tongue <= 2; tongue++) {
+            c.due("a fault", Check.treaty(x, tongue, FOUR + "x"), -1);
+            c.due("another text", Check.treaty(x, tongue, tongue == 1 ? "share 7;" : ""), tongue == 1 ? 1 : 0);
+            c.due("share", x.pays(0, tongue, 0), tongue == 1 ? 7 : 50);
+            c.due("leave", x.leave(0, tongue, 0), 0);
+            c.due("fly", x.soonest(0, 1, tongue, 0, 0, 99), 103);
+            c.due("keep", x.hold(0, tongue, 0), 1);
+        }
+        c.due("each line may be told", Check.treaty(x, 0, FOUR), 4);
+    }
+
+    @Says(promise = 5, words = {"60 units in all", "is the TREATY in a TONGUE"})
+    static void promise5_toldAgainAndAgain(Check c) {
+        FastPlane x = Check.with(Check.part("a", 1, 100));
+        x.change(0, 0);
+        for (int round = 0; round < 30; round++) {
+            c.due("told", Check.treaty(x, 0, "share " + round + "+" + "1+".repeat(58) + "1;"), 1);
+            c.due("round " + round, x.pays(0, 0, 0), 59 + round);
+        }
+    }
+
     // ---- promise 5: lines
 
     @Says(promise = 5, words = {"line = share e ; | (leave | fly | keep) when e ;.", "FAULTS 1, 2"})
@@ -559,6 +585,10 @@ public final class TreatyBoundariesTest {
         FastPlane x = tongues("leave when month = 199; fly when not (ground = 7 and hour = 23 and speed = 30);", "");
         c.due("nobody may leave", x.unlike(0, 1, false), 19900);
         c.due("fly holds", x.unlike(1, 0, true), 72330);
+        c.due("leave when month", tongues("leave when month;", "").unlike(0, 1, false), 100);
+        c.due("leave when over", tongues("", "leave when over;").unlike(0, 1, false), 1);
+        c.due("fly when ground", tongues("fly when ground;", "").unlike(0, 1, true), 0);
+        c.due("fly when 1 - speed", tongues("fly when 1 - speed;", "").unlike(0, 1, true), 1);
         x = tongues("leave when 0; fly when 1; share 1; keep when 0;", "share 2; keep when 1;");
         c.due("nobody may leave", x.unlike(0, 1, false), -1);
         c.due("fly holds", x.unlike(0, 1, true), -1);
