@@ -233,6 +233,19 @@ public final class FlightBoundariesTest {
         c.due("room for two", most.plan(13, 4, 0), -1);
     }
 
+    @Says(promise = 25, words = "TANKS have so much as it begins (0 .. holds each)")
+    static void promise25_roomIsOfTheTankThatIsPumpedTo(Check c) {
+        for (int i = 0; i <= 5; i++) {
+            // All that is left is to be in the TANK at 10: one is pumped there, one is burnt.
+            FastPlane up = flight("tank at 0 holds 5; tank at 10 holds 15;", 10, 10);
+            c.due("to the larger one, " + i, up.plan(2, 9 + i, 0), 1);
+            FastPlane down = flight("tank at 0 holds 15; tank at 10 holds 5;", 10, 10);
+            c.due("to the smaller one, " + i, down.plan(2, 2 + i, 0), 3 + i <= 5 ? 1 : -1);
+            FastPlane third = flight("tank at 0 holds 3; tank at 5 holds 15; tank at 10 holds 9;", 10, 10);
+            c.due("to the last one, " + i, third.plan(0, 2, 5 + i), 6 + i <= 9 ? 1 : -1);
+        }
+    }
+
     private static FastPlane flight(String tanks, int pump, int from, int to) {
         FastPlane x = flight(tanks, from, to);
         x.pump(pump);

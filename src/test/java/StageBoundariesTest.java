@@ -295,6 +295,26 @@ public final class StageBoundariesTest {
         c.due("no stages, though one may wait", none.should(0, 0, 0), -1);
     }
 
+    @Says(promise = 37, words = {"or one can't be.", "The money of both LANDS is 0 .. 30 each."})
+    static void promise37_moneyThatCanNotBeThoughItWereEnough(Check c) {
+        FastPlane x = stages(5, 5, 5, 5);
+        x.grant(9, 4);
+        for (int none : new int[] {-1, -2, 31, 32, 35, 40}) {
+            c.due("safe(" + none + ", 30, 0)", x.safe(none, 30, 0), -1);
+            c.due("safe(30, " + none + ", 0)", x.safe(30, none, 0), -1);
+            c.due("bears(" + none + ", 30)", x.bears(none, 30), -1);
+            c.due("bears(30, " + none + ")", x.bears(30, none), -1);
+            c.due("should(" + none + ", 30, 0)", x.should(none, 30, 0), -1);
+            c.due("should(30, " + none + ", 0)", x.should(30, none, 0), -1);
+        }
+        for (int money : new int[] {0, 1, 29, 30}) {
+            c.due("safe(" + money + ", 30, 0)", x.safe(money, 30, 0), 1);
+            c.due("bears(" + money + ", 30)", x.bears(money, 30), 6);
+            c.due("should(" + money + ", 30, 0)", x.should(money, 30, 0), money < 2 ? 0 : 1);
+            c.due("should(30, " + money + ", 0)", x.should(30, money, 0), money < 3 ? 0 : 1);
+        }
+    }
+
     @Says(promise = 37, words = "1 to go on, 0 to WAIT (1 if both do); NONE if it is not SAFE")
     static void promise37_goOnOrWait(Check c) {
         FastPlane x = stages(10, 5);
