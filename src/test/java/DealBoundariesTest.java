@@ -348,6 +348,18 @@ public final class DealBoundariesTest {
         divided(c, 92, "222222222222", 11988, costs);
     }
 
+    @Says(promise = 31, words = "each PART is made by land 0, by land 1, or by both")
+    static void promise31_byWhomTheMachineTellsAPartMakesNoDifference(Check c) {
+        for (int by = 0; by < 4; by++) {
+            FastPlane x = Check.with(Check.part("a", by & 1, "1 cm", 0, 30) + Check.part("b", by >> 1, "1 cm", 0, 70));
+            c.due("shared(30) by " + by, x.shared(30), 0);
+            c.due("a by " + by, x.maker(0, 30), 0);
+            c.due("b by " + by, x.maker(1, 30), 1);
+            c.due("b of 31 by " + by, x.maker(1, 31), 2);
+            c.due("b of 0 by " + by, x.maker(1, 0), 0);
+        }
+    }
+
     @Says(promise = 32, words = {"Who makes a PART then: 0, 1, 2 both; NONE likewise, or if there is none such."})
     static void promise32_noSuchPart(Check c) {
         c.due("no part at all", new FastPlane().maker(0, 0), -1);

@@ -1,19 +1,27 @@
+import com.sun.source.tree.ArrayAccessTree;
 import com.sun.source.tree.AssertTree;
+import com.sun.source.tree.AssignmentTree;
 import com.sun.source.tree.BinaryTree;
 import com.sun.source.tree.ClassTree;
 import com.sun.source.tree.CompilationUnitTree;
 import com.sun.source.tree.CompoundAssignmentTree;
+import com.sun.source.tree.DoWhileLoopTree;
+import com.sun.source.tree.ExpressionTree;
+import com.sun.source.tree.ForLoopTree;
 import com.sun.source.tree.ImportTree;
 import com.sun.source.tree.LambdaExpressionTree;
 import com.sun.source.tree.MemberReferenceTree;
 import com.sun.source.tree.MethodInvocationTree;
 import com.sun.source.tree.MethodTree;
+import com.sun.source.tree.NewArrayTree;
 import com.sun.source.tree.NewClassTree;
 import com.sun.source.tree.SynchronizedTree;
 import com.sun.source.tree.ThrowTree;
 import com.sun.source.tree.Tree;
 import com.sun.source.tree.TryTree;
+import com.sun.source.tree.UnaryTree;
 import com.sun.source.tree.VariableTree;
+import com.sun.source.tree.WhileLoopTree;
 import com.sun.source.util.JavacTask;
 import com.sun.source.util.TreePath;
 import com.sun.source.util.TreePathScanner;
@@ -31,6 +39,7 @@ import java.util.List;
 import java.util.Map;
 import java.util.Set;
 import java.util.TreeSet;
+import java.util.regex.Pattern;
 import javax.lang.model.element.Element;
 import javax.lang.model.element.Modifier;
 import javax.lang.model.type.TypeMirror;
@@ -54,6 +63,14 @@ public final class LanguageTest {
         "System", names("arraycopy"),
         "Object", names("<init> clone"));
     private static final Set<String> STATICS = Set.of("Integer", "Long", "Math");
+    private static final String NUMBER = "(int|long|short|byte|char|double|float)";
+    private static final String OWN = "FastPlane(\\.\\w+)?";
+    private static final Pattern TYPES = Pattern.compile("void|(" + NUMBER + "|boolean|" + OWN + ")(\\[\\])?|" + NUMBER
+        + "\\[\\]\\[\\]|java\\.lang\\.(String|StringBuilder|Integer)|java\\.util\\.(ArrayList|List)<("
+        + OWN + "|java\\.lang\\.Integer)>");
+    private static final Pattern STATIC_TYPES = Pattern.compile("int|long|boolean|char|java\\.lang\\.String");
+    private static final Pattern STATIC_ROWS = Pattern.compile("(int|long|char|byte)\\[\\]");
+    private static final Pattern COMPARED_BY_EQUALS = Pattern.compile("java\\.lang\\.(String|Integer)");
     // "Some twelve", "some twenty" and "some sixty" leave a few more.
     private static final int MOST_DEEP = 8;
     private static final int MOST_LINES = 64;
@@ -179,8 +196,82 @@ public final class LanguageTest {
 
         private void staticField(VariableTree field) {
             Set<Modifier> modifiers = field.getModifiers().getFlags();
-            if (modifiers.contains(Modifier.STATIC) && !modifiers.contains(Modifier.FINAL)) {
+            if (!modifiers.contains(Modifier.STATIC)) {
+                return;
+            }
+            if (!modifiers.contains(Modifier.FINAL)) {
                 broken(5, field.getName() + " is not final");
+            }
+            String type = String.valueOf(typeOf(field.getType()));
+            boolean writtenOut = field.getInitializer() instanceof NewArrayTree row && row.getInitializers() != null;
+            if (!STATIC_TYPES.matcher(type).matches() && !(STATIC_ROWS.matcher(type).matches() && writtenOut)) {
+                broken(5, field.getName() + " is of the type " + type);
+            }
+        }
+
+        private TypeMirror typeOf(Tree tree) {
+            return trees.getTypeMirror(TreePath.getPath(unit, tree));
+        }
+
+        private void type(Tree tree, String what) {
+            String type = tree == null ? "void" : String.valueOf(typeOf(tree));
+            if (!TYPES.matcher(type).matches()) {
+                broken(3, what + " is of the type " + type);
+            }
+        }
+
+        @Override
+        public Void visitVariable(VariableTree tree, Void none) {
+            type(tree.getType(), tree.getName().toString());
+            return super.visitVariable(tree, none);
+        }
+
+        @Override
+        public Void visitAssignment(AssignmentTree tree, Void none) {
+            changed(tree.getVariable());
+            return super.visitAssignment(tree, none);
+        }
+
+        @Override
+        public Void visitUnary(UnaryTree tree, Void none) {
+            switch (tree.getKind()) {
+                case PREFIX_INCREMENT, PREFIX_DECREMENT, POSTFIX_INCREMENT, POSTFIX_DECREMENT -> changed(tree.getExpression());
+                default -> { }
+            }
+            return super.visitUnary(tree, none);
+        }
+
+        private void changed(ExpressionTree variable) {
+            if (variable instanceof ArrayAccessTree place) {
+                Element row = trees.getElement(TreePath.getPath(unit, place.getExpression()));
+                if (row != null && row.getModifiers().contains(Modifier.STATIC)) {
+                    broken(5, row + " is changed, " + where(variable));
+                }
+            }
+        }
+
+        @Override
+        public Void visitWhileLoop(WhileLoopTree tree, Void none) {
+            loop(tree.getCondition(), tree);
+            return super.visitWhileLoop(tree, none);
+        }
+
+        @Override
+        public Void visitDoWhileLoop(DoWhileLoopTree tree, Void none) {
+            loop(tree.getCondition(), tree);
+            return super.visitDoWhileLoop(tree, none);
+        }
+
+        @Override
+        public Void visitForLoop(ForLoopTree tree, Void none) {
+            loop(tree.getCondition(), tree);
+            return super.visitForLoop(tree, none);
+        }
+
+        private void loop(ExpressionTree condition, Tree tree) {
+            String shown = String.valueOf(condition);
+            if (condition == null || shown.equals("true") || shown.equals("(true)")) {
+                broken(9, "a loop without an end, " + where(tree));
             }
         }
 
@@ -192,6 +283,7 @@ public final class LanguageTest {
             if (hidden && FACE.contains(tree.getName().toString())) {
                 broken(1, "a private method has the name " + tree.getName());
             }
+            type(tree.getReturnType(), tree.getName().toString());
             if (tree.getParameters().size() > MOST_PARAMETERS) {
                 broken(11, "too many parameters, " + where(tree));
             }
@@ -238,10 +330,18 @@ public final class LanguageTest {
             return type != null && type.toString().equals("java.lang.String");
         }
 
+        private boolean comparedByEquals(Tree tree) {
+            return COMPARED_BY_EQUALS.matcher(String.valueOf(typeOf(tree))).matches();
+        }
+
         @Override
         public Void visitBinary(BinaryTree tree, Void none) {
             if (tree.getKind() == Tree.Kind.PLUS && (isText(tree.getLeftOperand()) || isText(tree.getRightOperand()))) {
                 broken(10, "texts joined by +, " + where(tree));
+            }
+            boolean same = tree.getKind() == Tree.Kind.EQUAL_TO || tree.getKind() == Tree.Kind.NOT_EQUAL_TO;
+            if (same && comparedByEquals(tree.getLeftOperand()) && comparedByEquals(tree.getRightOperand())) {
+                broken(6, "two texts or Integers by ==, " + where(tree));
             }
             return super.visitBinary(tree, none);
         }
@@ -251,6 +351,7 @@ public final class LanguageTest {
             if (isText(tree.getVariable())) {
                 broken(10, "texts joined by +=, " + where(tree));
             }
+            changed(tree.getVariable());
             return super.visitCompoundAssignment(tree, none);
         }
 
